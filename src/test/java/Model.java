@@ -34,6 +34,8 @@ final class Model {
         final TreeMap<Integer, Integer> mates = new TreeMap<>();
         /** How often each key's arc is in the rows. */
         final TreeMap<Integer, Long> times = new TreeMap<>();
+        /** Levels found once are kept, as finding them is slow. */
+        final TreeMap<Integer, Integer> levels = new TreeMap<>();
         /** How many arcs of this stream and of those put together with it have each node. */
         BigInteger[] degrees = zeros();
 
@@ -154,7 +156,11 @@ final class Model {
         }
         int key = 64 * Math.min(a, b) + Math.max(a, b);
         streams[s].times.merge(key, -1L, Long::sum);
-        return levelOf(streams[s].seed, key);
+        return levelOf(streams[s], key);
+    }
+
+    private static int levelOf(Stream x, int key) {
+        return x.levels.computeIfAbsent(key, k -> levelOf(x.seed, k));
     }
 
     /** The level, by whole numbers that are cut to 64 bits after each step. */
@@ -307,7 +313,7 @@ final class Model {
         BigInteger total = BigInteger.ZERO;
         for (Map.Entry<Integer, Long> e : x.times.entrySet()) {
             int key = e.getKey(), a = key >> 6, b = key & 63;
-            if (levelOf(x.seed, key) >= level && (a == n || b == n)) {
+            if ((a == n || b == n) && levelOf(x, key) >= level) {
                 BigInteger one = BigInteger.valueOf(key).pow(which).multiply(BigInteger.valueOf(e.getValue()));
                 total = a == n ? total.add(one) : total.subtract(one);
             }
