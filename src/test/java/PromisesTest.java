@@ -693,6 +693,7 @@ public final class PromisesTest {
         due("64 is no key", outByMix(64, 1, 2L, new int[] {2, 4, 12}, new int[] {8, 10}), UNSURE);
         due("count 0, sums not", outByMix(8, 0, 1L, new int[] {1}, new int[] {3}), UNSURE);
         due("count and sum 0", outByMix(8, 0, 1L, new int[] {1, 4}, new int[] {2, 3}), UNSURE);
+        due("count and squares 0", outByMix(9, 0, 1L, new int[] {1, 8}, new int[] {4, 7}), UNSURE);
         due("all are 0", outByMix(8, 0, 1L, one, new int[] {2, 3, 7}), NOTHING);
     }
 
