@@ -1,78 +1,13 @@
 /** Each promise by answers worked out by hand: ordinary calls, the document's edges, wrong numbers. */
-public final class PromisesTest {
-    private static final int BAD = -1, NONE = -2, APART = -3, NOTHING = -4, UNSURE = -5, FULL = -6;
-    private static final int BILLION = 1000000000;
-    private static final int[] WRONG_STREAMS = {-1, 3, Integer.MIN_VALUE, Integer.MAX_VALUE};
+public final class PromisesTest extends Scene {
     private static final long GOLDEN = 0x9E3779B97F4A7C15L;
 
-    private final Check check;
-    private final String promise;
-    private final StreamCounts x = new StreamCounts();
-
-    private PromisesTest(Check check, String promise) {
-        this.check = check;
-        this.promise = promise;
+    public static void main(String[] args) throws Exception {
+        play(PromisesTest.class);
     }
 
-    private static PromisesTest of(Check check, String promise) {
-        return new PromisesTest(check, promise);
-    }
-
-    public static void main(String[] args) {
-        Check check = new Check();
-        of(check, "1 new").newObject();
-        of(check, "2 begin").begin();
-        of(check, "2 begin, wrong").beginWrong();
-        of(check, "3 add").add();
-        of(check, "3 add, 512 calls").addAsOftenAsMayBe();
-        of(check, "4 take").take();
-        of(check, "5 merge").merge();
-        of(check, "5 merge, wrong").mergeWrong();
-        of(check, "5 merge, counts full").mergeFullByCounts();
-        of(check, "5 merge, lost full").mergeFullByLost();
-        of(check, "5 merge, lost far above").mergeFullFarAbove();
-        of(check, "5 merge, sums run over").mergeRunsOver();
-        of(check, "6 told").told();
-        of(check, "7 span").span();
-        of(check, "8 slot").slot();
-        of(check, "9, 10 parts, part").parts();
-        of(check, "11 tree").tree();
-        of(check, "12 since").since();
-        of(check, "13 far").far();
-        of(check, "13 stretch").stretches();
-        of(check, "14 kept").kept();
-        of(check, "15 mate").mate();
-        of(check, "16 sum").sum();
-        of(check, "17 out").out();
-        of(check, "17 out, refused keys").outOfNoKey();
-        of(check, "17 out, greatest level").outByGreatestLevel();
-        of(check, "17 out, other bits").outOtherBits();
-        of(check, "18 level").level();
-        of(check, "19 same").same();
-        check.end();
-    }
-
-    private void due(String call, long got, long want) {
-        check.due(promise + ": " + call, got, want);
-    }
-
-    private void start(int stream, int nodes, int slots, int stretch, long seed) {
-        x.begin(stream, nodes, slots, stretch, seed);
-    }
-
-    private void adds(int stream, int... nodes) {
-        for (int i = 0; i + 1 < nodes.length; i += 2) {
-            x.add(stream, nodes[i], nodes[i + 1]);
-        }
-    }
-
-    private void tells(int stream, int... want) {
-        for (int what = 0; what < want.length; what++) {
-            due("told " + stream + " " + what, x.told(stream, what), want[what]);
-        }
-    }
-
-    private void newObject() {
+    @Says("Promise 1: A new object")
+    void newObject() {
         for (int s = 0; s < 3; s++) {
             tells(s, 0, 0, 0, 0, 0, 0, 2, 1, 1);
             due("parts", x.parts(s, 5), 2);
@@ -91,8 +26,9 @@ public final class PromisesTest {
         due("objects are on their own", y.told(0, 0), 0);
     }
 
-    private void begin() {
-        start(0, 6, 3, 5, 11L);
+    @Says("Promise 2: begin")
+    void begin() {
+        x.begin(0, 6, 3, 5, 11L);
         adds(0, 0, 1, 2, 3, 0, 2);
         adds(1, 0, 1);
         due("had come", x.begin(0, 5, 2, 7, -4L), 3);
@@ -110,8 +46,9 @@ public final class PromisesTest {
         due("time from 1", x.add(0, 63, 0), 1);
     }
 
-    private void beginWrong() {
-        start(1, 6, 3, 5, 11L);
+    @Says("Promise 2: begin")
+    void beginWrong() {
+        x.begin(1, 6, 3, 5, 11L);
         adds(1, 0, 1, 4, 5);
         for (int s : WRONG_STREAMS) {
             due("stream " + s, x.begin(s, 6, 3, 5, 1L), BAD);
@@ -132,8 +69,9 @@ public final class PromisesTest {
         }
     }
 
-    private void add() {
-        start(0, 5, 2, 3, 5L);
+    @Says("Promise 3: add")
+    void add() {
+        x.begin(0, 5, 2, 3, 5L);
         due("first", x.add(0, 4, 0), 1);
         for (int s : WRONG_STREAMS) {
             due("stream " + s, x.add(s, 0, 1), BAD);
@@ -151,8 +89,9 @@ public final class PromisesTest {
         due("thinned has the earlier", x.kept(0, 0, 2), 1);
     }
 
-    private void addAsOftenAsMayBe() {
-        start(0, 64, 16, 1, 5L);
+    @Says("Promise 3: add")
+    void addAsOftenAsMayBe() {
+        x.begin(0, 64, 16, 1, 5L);
         int time = 0;
         for (int a = 0; a < 64 && time < 509; a++) {
             for (int b = a + 1; b < 64 && time < 509; b++) {
@@ -164,8 +103,9 @@ public final class PromisesTest {
         due("the last one", x.kept(0, 508, 2), 509);
     }
 
-    private void take() {
-        start(0, 6, 2, 3, 5L);
+    @Says("Promise 4: take")
+    void take() {
+        x.begin(0, 6, 2, 3, 5L);
         adds(0, 0, 1, 1, 2, 0, 1);
         int[] before = {3, 2, 1, 2, 2, 1, 6, 2, 3};
         tells(0, before);
@@ -186,14 +126,15 @@ public final class PromisesTest {
             due("b " + node, x.take(0, 1, node), BAD);
         }
         due("twice", x.take(0, 2, 2), BAD);
-        start(1, 64, 1, 1, -2L * GOLDEN);
+        x.begin(1, 64, 1, 1, -2L * GOLDEN);
         due("all bits 0: at most 9", x.take(1, 0, 1), 9);
         due("at level 9 too", x.sum(1, 1, 9, 0), 1);
     }
 
-    private void merge() {
+    @Says("Promise 5: merge")
+    void merge() {
         for (int s = 0; s < 3; s++) {
-            start(s, 8, 2, 3, 5L);
+            x.begin(s, 8, 2, 3, 5L);
         }
         adds(0, 0, 1, 0, 1, 0, 1);
         adds(1, 2, 0, 0, 2);
@@ -214,19 +155,20 @@ public final class PromisesTest {
         due("0 is left", x.slot(2, 0, 0), 0);
         due("with", x.slot(2, 0, 1), 2);
         due("lost", x.told(2, 2), 3);
-        start(0, 8, 2, 3, 5L);
+        x.begin(0, 8, 2, 3, 5L);
         adds(0, 6, 7);
-        start(1, 8, 2, 3, 5L);
+        x.begin(1, 8, 2, 3, 5L);
         adds(1, 4, 5);
         due("all alike: none is left", x.merge(0, 1), 0);
         due("lost", x.told(0, 2), 1);
-        start(0, 8, 2, 3, 5L);
+        x.begin(0, 8, 2, 3, 5L);
         due("into an empty one", x.merge(0, 1), 2);
         due("nothing lost", x.told(0, 2), 0);
         due("not an arc more", x.told(0, 0), 0);
     }
 
-    private void mergeWrong() {
+    @Says("Promise 5: merge")
+    void mergeWrong() {
         adds(0, 0, 1);
         for (int s : WRONG_STREAMS) {
             due("stream " + s, x.merge(s, 0), BAD);
@@ -234,11 +176,11 @@ public final class PromisesTest {
             due("both " + s, x.merge(s, s), BAD);
         }
         due("the same", x.merge(0, 0), BAD);
-        start(0, 6, 2, 3, 5L);
+        x.begin(0, 6, 2, 3, 5L);
         adds(0, 0, 1);
         int[][] others = {{7, 2, 3, 5}, {6, 3, 3, 5}, {6, 2, 5, 5}, {6, 2, 3, 6}};
         for (int[] other : others) {
-            start(1, other[0], other[1], other[2], other[3]);
+            x.begin(1, other[0], other[1], other[2], other[3]);
             adds(1, 0, 1);
             due("apart", x.merge(0, 1), APART);
             due("apart", x.merge(1, 0), APART);
@@ -246,32 +188,19 @@ public final class PromisesTest {
         }
         due("nothing changed", x.sum(0, 0, 0, 0), 1);
         due("nothing changed", x.span(0, 0, 0), 1);
-        start(1, 6, 2, 3, 5L + (1L << 32));
+        x.begin(1, 6, 2, 3, 5L + (1L << 32));
         due("seeds differ above", x.merge(0, 1), APART);
     }
 
-    /** Lets stream 0 have each of two nodes so often, by doubling over stream 2. */
-    private void grow(int[] form, int a, int b, int often) {
-        start(0, form[0], form[1], 1, 5L);
-        for (int bit = 30; bit >= 0; bit--) {
-            start(2, form[0], form[1], 1, 5L);
-            x.merge(2, 0);
-            x.merge(0, 2);
-            if ((often >> bit & 1) == 1) {
-                x.add(0, a, b);
-            }
-        }
-    }
-
-    private void copy(int[] form, int from, int to) {
-        start(to, form[0], form[1], 1, 5L);
+    private void copy(int from, int to) {
+        x.begin(to, 4, 2, 1, 5L);
         x.merge(to, from);
     }
 
-    private void mergeFullByCounts() {
-        int[] form = {4, 2};
-        grow(form, 0, 1, BILLION - 1);
-        start(1, 4, 2, 1, 5L);
+    @Says("Promise 5: merge")
+    void mergeFullByCounts() {
+        grow(4, 2, 0, 1, BILLION - 1);
+        x.begin(1, 4, 2, 1, 5L);
         adds(1, 0, 1);
         due("just so many", x.merge(0, 1), 2);
         due("from", x.span(0, 1, 0), BILLION);
@@ -280,28 +209,28 @@ public final class PromisesTest {
         due("counts stay", x.span(0, 0, 0), BILLION);
         due("sums stay", x.sum(0, 0, 0, 0), BILLION);
         due("the other's too", x.sum(1, 0, 0, 0), 1);
-        start(1, 4, 2, 1, 5L);
+        x.begin(1, 4, 2, 1, 5L);
         adds(1, 0, 2);
         due("c not yet taken off", x.merge(0, 1), FULL);
         due("slots stay", x.told(0, 1), 2);
-        start(1, 4, 2, 1, 5L);
+        x.begin(1, 4, 2, 1, 5L);
         adds(1, 2, 3);
         due("others are as many as before", x.merge(0, 1), 2);
         due("c taken off", x.span(0, 0, 0), BILLION - 1);
         due("to", x.span(0, 0, 1), BILLION);
-        start(1, 4, 2, 1, 5L);
+        x.begin(1, 4, 2, 1, 5L);
         x.take(1, 0, 1);
         adds(0, 0, 1, 0, 1, 0, 1);
         due("add goes on", x.span(0, 0, 0), BILLION + 2);
         due("a count is above already", x.merge(0, 1), FULL);
     }
 
-    private void mergeFullByLost() {
-        int[] form = {2, 1};
-        grow(form, 0, 1, BILLION - 1);
+    @Says("Promise 5: merge")
+    void mergeFullByLost() {
+        grow(2, 1, 0, 1, BILLION - 1);
         due("with one slot all are lost", x.told(0, 1), 0);
         due("lost", x.told(0, 2), BILLION - 1);
-        start(1, 2, 1, 1, 5L);
+        x.begin(1, 2, 1, 1, 5L);
         adds(1, 0, 1);
         due("just so many", x.merge(0, 1), 0);
         due("lost", x.told(0, 2), BILLION);
@@ -310,18 +239,18 @@ public final class PromisesTest {
         due("one more, the other way", x.merge(1, 0), FULL);
         due("stays", x.told(0, 2), BILLION);
         due("sums stay", x.sum(0, 0, 0, 0), BILLION);
-        start(1, 2, 1, 1, 5L);
+        x.begin(1, 2, 1, 1, 5L);
         x.take(1, 0, 1);
         due("none more", x.merge(0, 1), 0);
         due("sums", x.sum(0, 0, 0, 0), BILLION - 1);
     }
 
-    private void mergeFullFarAbove() {
-        int[] form = {4, 2};
-        grow(form, 2, 3, BILLION);
-        copy(form, 0, 1);
-        grow(form, 0, 1, BILLION);
-        copy(form, 0, 2);
+    @Says("Promise 5: merge")
+    void mergeFullFarAbove() {
+        grow(4, 2, 2, 3, BILLION);
+        copy(0, 1);
+        grow(4, 2, 0, 1, BILLION);
+        copy(0, 2);
         due("c is a billion", x.merge(0, 1), 0);
         due("lost a billion", x.told(0, 2), BILLION);
         due("into 1", x.merge(1, 0), 2);
@@ -335,9 +264,10 @@ public final class PromisesTest {
         due("stays", x.span(1, 3, 0), BILLION);
     }
 
-    private void mergeRunsOver() {
-        start(0, 64, 3, 3, 5L);
-        start(1, 64, 3, 3, 5L);
+    @Says("Promise 5: merge")
+    void mergeRunsOver() {
+        x.begin(0, 64, 3, 3, 5L);
+        x.begin(1, 64, 3, 3, 5L);
         x.take(0, 62, 63);
         x.take(1, 62, 63);
         x.take(1, 63, 62);
@@ -356,8 +286,9 @@ public final class PromisesTest {
         due("nothing leads out of all", x.out(0, -1L), NOTHING);
     }
 
-    private void told() {
-        start(2, 9, 4, 3, 5L);
+    @Says("Promise 6: told")
+    void told() {
+        x.begin(2, 9, 4, 3, 5L);
         adds(2, 0, 1, 1, 2, 2, 0, 3, 4, 4, 5, 0, 3);
         // 0:1 1:1 / 1:2 2:1 / 2:2 0:2 / 3:1, 4 lowers all: 0:1 1:1 2:1, 1 lost / 4:1, 5 lowers all: none, 2 lost
         tells(2, 6, 2, 2, 5, 5, 2, 9, 4, 3);
@@ -370,8 +301,9 @@ public final class PromisesTest {
         }
     }
 
-    private void span() {
-        start(0, 5, 2, 1, 5L);
+    @Says("Promise 7: span")
+    void span() {
+        x.begin(0, 5, 2, 1, 5L);
         adds(0, 3, 1, 1, 3, 1, 4);
         due("1 from: 3, and one less by 4", x.span(0, 1, 0), 2);
         due("1 to", x.span(0, 1, 1), 3);
@@ -379,19 +311,19 @@ public final class PromisesTest {
         due("4 from", x.span(0, 4, 0), 0);
         due("4 to", x.span(0, 4, 1), 1);
         due("0 to", x.span(0, 0, 1), 1);
-        start(1, 3, 2, 1, 5L);
+        x.begin(1, 3, 2, 1, 5L);
         adds(1, 0, 1, 2, 0);
         due("a is counted first: 2 frees both, then 0 takes one", x.span(1, 0, 0), 1);
-        start(1, 3, 2, 1, 5L);
+        x.begin(1, 3, 2, 1, 5L);
         adds(1, 0, 1, 0, 2);
         due("0 is two, then 2 lowers all", x.span(1, 0, 0), 1);
         due("1 is free", x.span(1, 1, 0), 0);
         due("taken", x.told(1, 1), 1);
-        start(1, 4, 2, 1, 5L);
+        x.begin(1, 4, 2, 1, 5L);
         adds(1, 0, 1, 2, 3);
         due("2 frees both, 3 takes one", x.span(1, 3, 0), 1);
         due("2 has none", x.span(1, 2, 0), 0);
-        start(1, 4, 2, 1, 5L);
+        x.begin(1, 4, 2, 1, 5L);
         adds(1, 0, 1, 3, 2);
         due("3 frees both, 2 takes one", x.span(1, 2, 0), 1);
         for (int s : WRONG_STREAMS) {
@@ -404,8 +336,9 @@ public final class PromisesTest {
         due("end 2", x.span(0, 0, 2), BAD);
     }
 
-    private void slot() {
-        start(0, 64, 5, 1, 5L);
+    @Says("Promise 8: slot")
+    void slot() {
+        x.begin(0, 64, 5, 1, 5L);
         adds(0, 9, 5, 63, 9, 5, 2, 2, 7);
         int[] nodes = {2, 5, 9, 7, 63};
         int[] counts = {2, 2, 2, 1, 1};
@@ -427,8 +360,9 @@ public final class PromisesTest {
         due("no fifth", x.slot(0, 4, 0), BAD);
     }
 
-    private void parts() {
-        start(0, 6, 2, 3, 5L);
+    @Says("Promise 9: parts")
+    void parts() {
+        x.begin(0, 6, 2, 3, 5L);
         adds(0, 4, 5, 1, 2, 2, 3, 3, 1, 5, 3);
         int[] parts = {6, 5, 4, 3, 3, 2, 2};
         int[] leastOf5 = {5, 3, 1, 1, 1, 1, 1};
@@ -450,7 +384,7 @@ public final class PromisesTest {
         for (int wrong : new int[] {-1, 6, Integer.MIN_VALUE, Integer.MAX_VALUE}) {
             due("node " + wrong, x.part(0, 1, wrong), BAD);
         }
-        start(1, 64, 2, 3, 5L);
+        x.begin(1, 64, 2, 3, 5L);
         for (int node = 62; node >= 0; node--) {
             x.add(1, node, node + 1);
         }
@@ -459,8 +393,9 @@ public final class PromisesTest {
         due("one part", x.parts(1, 63), 1);
     }
 
-    private void tree() {
-        start(0, 6, 2, 3, 5L);
+    @Says("Promise 11: tree")
+    void tree() {
+        x.begin(0, 6, 2, 3, 5L);
         adds(0, 5, 4, 1, 2, 2, 3, 3, 1, 5, 4);
         int[][] arcs = {{3, 2, 3}, {4, 1, 3}, {5, 4, 5}};
         due("size", x.told(0, 3), 3);
@@ -476,7 +411,7 @@ public final class PromisesTest {
         for (int s : WRONG_STREAMS) {
             due("stream " + s, x.tree(s, 0, 0), BAD);
         }
-        start(1, 64, 2, 3, 5L);
+        x.begin(1, 64, 2, 3, 5L);
         for (int node = 0; node < 64; node++) {
             x.add(1, node, (node + 1) % 64);
         }
@@ -485,8 +420,9 @@ public final class PromisesTest {
         due("the latest", x.tree(1, 62, 0), 64);
     }
 
-    private void since() {
-        start(0, 6, 2, 3, 5L);
+    @Says("Promise 12: since")
+    void since() {
+        x.begin(0, 6, 2, 3, 5L);
         adds(0, 4, 5, 1, 2, 2, 3, 3, 1, 5, 3);
         due("by the last", x.since(0, 3, 5), 1);
         due("by the last two", x.since(0, 1, 5), 2);
@@ -507,8 +443,9 @@ public final class PromisesTest {
         }
     }
 
-    private void far() {
-        start(0, 64, 2, 1, 5L);
+    @Says("Promise 13: far")
+    void far() {
+        x.begin(0, 64, 2, 1, 5L);
         for (int node = 0; node < 62; node++) {
             x.add(0, node + 1, node);
         }
@@ -534,10 +471,11 @@ public final class PromisesTest {
     }
 
     /** A ring closes just if the rest of it is longer than the stretch. */
-    private void stretches() {
+    @Says("Promise 13: far")
+    void stretches() {
         for (int stretch = 1; stretch <= 7; stretch += 2) {
             for (int ring = 3; ring <= 10; ring++) {
-                start(0, 10, 2, stretch, 5L);
+                x.begin(0, 10, 2, stretch, 5L);
                 for (int node = 0; node < ring; node++) {
                     x.add(0, node, (node + 1) % ring);
                 }
@@ -550,8 +488,9 @@ public final class PromisesTest {
         }
     }
 
-    private void kept() {
-        start(0, 6, 2, 3, 5L);
+    @Says("Promise 14: kept")
+    void kept() {
+        x.begin(0, 6, 2, 3, 5L);
         adds(0, 5, 4, 1, 2, 4, 5, 2, 3, 3, 1, 0, 5);
         int[][] arcs = {{4, 5, 1}, {1, 2, 2}, {2, 3, 4}, {0, 5, 6}};
         due("size", x.told(0, 4), 4);
@@ -570,8 +509,9 @@ public final class PromisesTest {
         }
     }
 
-    private void mate() {
-        start(0, 7, 2, 3, 5L);
+    @Says("Promise 15: mate")
+    void mate() {
+        x.begin(0, 7, 2, 3, 5L);
         adds(0, 5, 1, 1, 2, 2, 5, 3, 2, 3, 4, 6, 4);
         int[] mates = {NONE, 5, 3, 2, 6, 1, 4};
         for (int node = 0; node < 7; node++) {
@@ -588,8 +528,9 @@ public final class PromisesTest {
         }
     }
 
-    private void sum() {
-        start(0, 64, 2, 3, 5L);
+    @Says("Promise 16: sum")
+    void sum() {
+        x.begin(0, 64, 2, 3, 5L);
         adds(0, 1, 0, 63, 62, 0, 1);
         long key = 64 * 62 + 63;
         due("a 0", x.sum(0, 0, 3, 0), 2);
@@ -603,7 +544,7 @@ public final class PromisesTest {
         for (int level = 0; level < 10; level++) {
             due("level " + level, x.sum(0, 62, level, 0), level <= top ? 1 : 0);
         }
-        start(1, 2, 1, 1, -2L * GOLDEN);
+        x.begin(1, 2, 1, 1, -2L * GOLDEN);
         adds(1, 0, 1);
         due("level 9", x.sum(1, 0, 9, 0), 1);
         due("no level 10", x.sum(1, 0, 10, 0), 0);
@@ -620,8 +561,9 @@ public final class PromisesTest {
         }
     }
 
-    private void out() {
-        start(0, 6, 2, 3, 5L);
+    @Says("Promise 17: out")
+    void out() {
+        x.begin(0, 6, 2, 3, 5L);
         adds(0, 3, 1);
         due("of a", x.out(0, 1L << 1), 67);
         due("of b", x.out(0, 1L << 3), 67);
@@ -643,7 +585,7 @@ public final class PromisesTest {
         for (int s : WRONG_STREAMS) {
             due("stream " + s, x.out(s, 1L), BAD);
         }
-        start(1, 64, 2, 3, 5L);
+        x.begin(1, 64, 2, 3, 5L);
         adds(1, 63, 62);
         due("of 63", x.out(1, Long.MIN_VALUE), 64 * 62 + 63);
         due("of all but 63", x.out(1, Long.MAX_VALUE), 64 * 62 + 63);
@@ -669,7 +611,7 @@ public final class PromisesTest {
 
     /** Out of a set by arcs of one node to greater ones, some added and others taken away. */
     private int outByMix(int nodes, int from, long set, int[] added, int[] taken) {
-        start(0, nodes, 2, 3, seedOfLowLevels(from, added, taken));
+        x.begin(0, nodes, 2, 3, seedOfLowLevels(from, added, taken));
         for (int node : added) {
             x.add(0, from, node);
         }
@@ -680,7 +622,8 @@ public final class PromisesTest {
     }
 
     /** Sums that look like one arc's, though there are more. */
-    private void outOfNoKey() {
+    @Says("Promise 17: out")
+    void outOfNoKey() {
         int[] one = {1, 5, 6};
         int[] two = {2, 3};
         due("1 + 5 + 6 - 2 - 3 is key 7, squares too", outByMix(8, 0, 1L, one, two), 7);
@@ -697,9 +640,10 @@ public final class PromisesTest {
         due("all are 0", outByMix(8, 0, 1L, one, new int[] {2, 3, 7}), NOTHING);
     }
 
-    private void outByGreatestLevel() {
+    @Says("Promise 17: out")
+    void outByGreatestLevel() {
         // By seed 5 the arc of 0 and 1 has level 3.
-        start(0, 64, 2, 3, 5L);
+        x.begin(0, 64, 2, 3, 5L);
         int low = 2;
         while (Model.levelOf(5L, low) != 0) {
             low++;
@@ -725,9 +669,10 @@ public final class PromisesTest {
         due("again the higher", x.out(0, 1L), mid);
     }
 
-    private void outOtherBits() {
-        start(0, 64, 2, 3, 5L);
-        start(0, 4, 2, 3, 5L);
+    @Says("Promise 17: out")
+    void outOtherBits() {
+        x.begin(0, 64, 2, 3, 5L);
+        x.begin(0, 4, 2, 3, 5L);
         adds(0, 0, 1, 2, 3);
         due("one", x.out(0, 0b0001L), 1);
         due("bits above", x.out(0, ~0b1110L), 1);
@@ -735,9 +680,10 @@ public final class PromisesTest {
         due("all", x.out(0, -1L), NOTHING);
     }
 
-    private void level() {
+    @Says("Promise 18: level")
+    void level() {
         due("none was", x.level(), NONE);
-        start(0, 6, 2, 3, 5L);
+        x.begin(0, 6, 2, 3, 5L);
         adds(0, 0, 1);
         due("none was yet", x.level(), NONE);
         due("out", x.out(0, 1L), 1);
@@ -745,7 +691,7 @@ public final class PromisesTest {
         due("still", x.level(), 3);
         due("refused", x.out(3, 1L), BAD);
         due("what is refused changes nothing", x.level(), 3);
-        start(0, 6, 2, 3, 5L);
+        x.begin(0, 6, 2, 3, 5L);
         due("it was the latest yet", x.level(), 3);
         due("out", x.out(1, 1L), NOTHING);
         due("it told none", x.level(), NONE);
@@ -757,9 +703,10 @@ public final class PromisesTest {
         due("it told none", x.level(), NONE);
     }
 
-    private void same() {
+    @Says("Promise 19: same")
+    void same() {
         for (int s = 0; s < 3; s++) {
-            start(s, 64, 2, 3, 5L);
+            x.begin(s, 64, 2, 3, 5L);
         }
         due("empty", x.same(0, 1), 1);
         adds(0, 0, 1, 62, 63);
@@ -778,7 +725,7 @@ public final class PromisesTest {
             due("other " + s, x.same(0, s), BAD);
             due("both " + s, x.same(s, s), BAD);
         }
-        start(1, 63, 2, 3, 5L);
+        x.begin(1, 63, 2, 3, 5L);
         due("apart", x.same(0, 1), APART);
         due("bad before apart", x.same(1, 3), BAD);
     }
