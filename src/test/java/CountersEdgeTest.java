@@ -553,6 +553,25 @@ public final class CountersEdgeTest extends Scene {
         due("stays", x.span(0, 0, 0), BILLION + 100);
     }
 
+    @Says("would be above 1000000000")
+    void lostFarAboveAnIntIsFullToo() {
+        grow(4, 2, 2, 3, BILLION);
+        x.begin(1, 4, 2, 1, 5L);
+        x.merge(1, 0);
+        grow(4, 2, 0, 1, BILLION);
+        x.begin(2, 4, 2, 1, 5L);
+        x.merge(2, 0);
+        due("0 loses a billion", x.merge(0, 1), 0);
+        due("1 has lost it too", x.merge(1, 0), 2);
+        due("0 counts a billion again", x.merge(0, 2), 2);
+        due("both have lost a billion, and c is one", x.merge(0, 1), FULL);
+        due("the other way", x.merge(1, 0), FULL);
+        slots(0, 0, BILLION, 1, BILLION);
+        slots(1, 2, BILLION, 3, BILLION);
+        due("lost stays", x.told(0, 2), BILLION);
+        due("the other's lost stays", x.told(1, 2), BILLION);
+    }
+
     @Says("from its count (0 without a SLOT) to that and LOST")
     void aSpanMayReachTwoBillions() {
         due("all are free", mergeWithCutOf(BILLION), 0);

@@ -83,6 +83,15 @@ public final class OutEdgeTest extends Scene {
     }
 
     @Says("C is 1 or -1")
+    void noOtherCountWillDoThoughTheRestWould() {
+        // E C is the key of 3 and 4, or of 1 and 2, and F C its square.
+        due("C is 2", outOfSums(64, 1L, 2, 98, 19208), UNSURE);
+        due("C is -2", outOfSums(64, 1L, -2, -98, -19208), UNSURE);
+        due("C is 3", outOfSums(64, 1L, 3, 22, 1452), UNSURE);
+        due("C is 0", outOfSums(64, 1L, 0, 66, 4356), UNSURE);
+    }
+
+    @Says("C is 1 or -1")
     void anArcThatCameTwiceLeadsNowhere() {
         x.begin(0, 6, 2, 3, 5L);
         adds(0, 2, 4, 4, 2);

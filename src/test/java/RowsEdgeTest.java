@@ -331,6 +331,49 @@ public final class RowsEdgeTest extends Scene {
         due("but level 0 tells nothing", x.out(0, 1L), NOTHING);
     }
 
+    /** All sums of stream 0 are 0, but for those of one kind; so its rows are not those of stream 1. */
+    private void differsInOneOf3Sums(int nodes, int which) {
+        for (int node = 0; node < nodes; node++) {
+            for (int level = 0; level < 2; level++) {
+                due("sum of " + node, x.sum(0, node, level, (which + 1) % 3), 0);
+                due("sum of " + node, x.sum(0, node, level, (which + 2) % 3), 0);
+            }
+        }
+        due("the sum of 0 differs", x.sum(0, 0, 0, which) != 0 ? 1 : 0, 1);
+        due("not the same", x.same(0, 1), 0);
+        due("not the same, the other way", x.same(1, 0), 0);
+    }
+
+    @Says("Whether the ROWS of two STREAMS are the same: 1, 0.")
+    void rowsMayDifferInCountsAlone() {
+        int[] arc = {0, 2};
+        long seed = Levels.seedFor(arc, 0);
+        beginAll(3, seed);
+        takes(0, arc);
+        doubleRows(63, 3, seed);
+        differsInOneOf3Sums(3, 0);
+    }
+
+    @Says("Whether the ROWS of two STREAMS are the same: 1, 0.")
+    void rowsMayDifferInKeysAlone() {
+        int[] arcs = {0, 2, 0, 4, 1, 2, 1, 4};
+        long seed = Levels.seedFor(arcs, 0, 0, 0, 0);
+        beginAll(5, seed);
+        takes(0, arcs);
+        takes(0, 0, 4, 0, 4, 1, 2, 1, 2);
+        doubleRows(62, 5, seed);
+        differsInOneOf3Sums(5, 1);
+    }
+
+    @Says("Whether the ROWS of two STREAMS are the same: 1, 0.")
+    void rowsMayDifferInSquaresAlone() {
+        int[] arcs = {0, 3, 0, 4, 0, 5, 1, 3, 1, 4, 1, 5, 2, 3, 2, 4, 2, 5};
+        beginAll(6, Levels.seedFor(arcs, new int[9]));
+        adds(0, 0, 3, 0, 5, 2, 3, 2, 5, 1, 4, 1, 4, 1, 4, 1, 4);
+        takes(0, 0, 4, 0, 4, 2, 4, 2, 4, 1, 3, 1, 3, 1, 5, 1, 5);
+        differsInOneOf3Sums(6, 2);
+    }
+
     @Says("Whether the ROWS of two STREAMS are the same: 1, 0. BAD; APART.")
     void sameRefuses() {
         x.begin(1, 3, 1, 1, 0L);

@@ -84,6 +84,24 @@ public final class ThinnedEdgeTest extends Scene {
         due("just over from one another", x.far(0, 0, 4), 4);
     }
 
+    @Says("unless there is a way of at most STRETCH ARCS")
+    void theWayMayLeadByAnyNode() {
+        x.begin(0, 64, 2, 3, 5L);
+        // From 30 ways of two arcs lead by a lesser, a middle and a greater node.
+        adds(0, 30, 5, 30, 31, 30, 60, 5, 1, 31, 2, 60, 3);
+        for (int node = 1; node <= 3; node++) {
+            due("30 to " + node, x.far(0, 30, node), 2);
+            due(node + " to 30", x.far(0, node, 30), 2);
+            x.add(0, 30, node);
+            due("not kept", x.told(0, 4), 6);
+        }
+        due("1 to 2", x.far(0, 1, 2), 4);
+        due("3 to 1", x.far(0, 3, 1), 4);
+        adds(0, 1, 2);
+        due("kept", x.told(0, 4), 7);
+        due("1 to 2", x.far(0, 1, 2), 1);
+    }
+
     // ---- far
 
     @Says("(0 to itself)")
