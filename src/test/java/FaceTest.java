@@ -1,7 +1,10 @@
+import java.io.IOException;
 import java.lang.reflect.Constructor;
 import java.lang.reflect.Field;
 import java.lang.reflect.Method;
 import java.lang.reflect.Modifier;
+import java.nio.file.Files;
+import java.nio.file.Path;
 import java.util.Set;
 import java.util.TreeSet;
 
@@ -15,8 +18,11 @@ public final class FaceTest {
         "long sum(int,int,int,int)", "int out(int,long)", "int level()", "int same(int,int)");
     private static final Set<String> CONSTANTS =
         Set.of("BAD -1", "NONE -2", "APART -3", "NOTHING -4", "UNSURE -5", "FULL -6");
+    private static final Path SOURCE = Path.of("src/main/java/StreamCounts.java");
+    private static final Path DOCUMENT = Path.of("../shared/DOC.md");
+    private static final String FACE_FROM = "```java\npublic final class StreamCounts {\n", FACE_TO = "}\n```";
 
-    public static void main(String[] args) throws IllegalAccessException {
+    public static void main(String[] args) throws IllegalAccessException, IOException {
         Check check = new Check();
         Class<StreamCounts> type = StreamCounts.class;
         int modifiers = type.getModifiers();
@@ -33,6 +39,13 @@ public final class FaceTest {
                 && !Modifier.isProtected(inside.getModifiers()));
             namesDiffer(check, inside);
         }
+        String source = Files.readString(SOURCE);
+        if (Files.exists(DOCUMENT)) {
+            linesOfTheDocument(check, source, Files.readString(DOCUMENT));
+        }
+        ahead(check, source, "---- the forest", "slot", "parts", "part", "tree", "since");
+        ahead(check, source, "---- the thinned graph, the matching", "since", "far", "kept", "mate");
+        ahead(check, source, "---- the rows", "mate", "sum", "out", "level", "same");
         check.end();
     }
 
@@ -73,6 +86,32 @@ public final class FaceTest {
         for (Method method : inside.getDeclaredMethods()) {
             check.isTrue(inside + " has " + method.getName(), !isOfFace(method.getName()));
         }
+    }
+
+    /** Each line of the document's face stands in the source, its parameters' names too. */
+    private static void linesOfTheDocument(Check check, String source, String document) {
+        int from = document.indexOf(FACE_FROM);
+        int to = document.indexOf(FACE_TO, from);
+        check.isTrue("the document has a face", from >= 0 && to > from);
+        String[] lines = document.substring(from + FACE_FROM.length(), to).split("\n");
+        check.due("lines of the face", lines.length, FACE.size() + 2);
+        for (String line : lines) {
+            String head = line.endsWith(");") ? line.substring(0, line.length() - 1) + " {" : line;
+            check.isTrue(line, source.contains("\n" + head + "\n"));
+        }
+    }
+
+    /** The words stand after the first call's head and before those of the others. */
+    private static void ahead(Check check, String source, String words, String before, String... calls) {
+        int at = source.indexOf("// " + words + "\n");
+        check.isTrue(before + " stands before " + words, place(source, before) < at);
+        for (String call : calls) {
+            check.isTrue(words + " stands before " + call, at >= 0 && at < place(source, call));
+        }
+    }
+
+    private static int place(String source, String call) {
+        return Math.max(source.indexOf("public int " + call + "("), source.indexOf("public long " + call + "("));
     }
 
     private static boolean isOfFace(String name) {
